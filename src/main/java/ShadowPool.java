@@ -23,26 +23,26 @@ public final class ShadowPool {
     private static final int NEAR = 1;
     private static final int PRICE = 2;
 
-    private final byte[] tape = new byte[TAPE_MOST];
+    private final Reader reader = new Reader();
+    private final byte[] tape = reader.scan.bytes;
     private int taped;
-    private final Reader reader = new Reader(tape);
-    private final Told told = new Told();
     private int faultKind;
     private int faultPlace = NONE;
+    private final Finder finder = new Finder();
+    private final Day day = finder.day;
+    private final Told told = day.told;
+    private final Ways ways = day.ways;
     private final Scene now = new Scene();
     private final Scene image = new Scene();
     private boolean imaged;
     private final Scene trial = new Scene();
-    private final Ways ways = new Ways();
-    private final Day day = new Day(told, ways);
-    private final Finder finder = new Finder(told, ways, day);
     private final Swapper swapper = new Swapper();
     private final Memory memory = new Memory();
     private final Deeds deeds = new Deeds();
 
     /** Promise 1. */
     public ShadowPool() {
-        taped = 0;
+        // a TEXT without LINES and an empty TAPE are what the fields begin with
     }
 
     /** Promise 2. */
@@ -577,6 +577,16 @@ public final class ShadowPool {
         return lamp >= 0 && lamp < told.lamps;
     }
 
+    /** Which MEETING of the first n is that of two, either way. */
+    private static int findPair(int[] first, int[] second, int n, int one, int other) {
+        for (int i = 0; i < n && i < MEETINGS_MOST; i++) {
+            if (first[i] == one && second[i] == other || first[i] == other && second[i] == one) {
+                return i;
+            }
+        }
+        return NONE;
+    }
+
     private static boolean isPlace(int place) {
         return place >= 0 && place <= PLACE_MOST;
     }
@@ -652,12 +662,7 @@ public final class ShadowPool {
         }
 
         int findMeeting(int one, int other) {
-            for (int i = 0; i < meetings; i++) {
-                if (first[i] == one && second[i] == other || first[i] == other && second[i] == one) {
-                    return i;
-                }
-            }
-            return NONE;
+            return findPair(first, second, meetings, one, other);
         }
 
         int sizeOf(int shadow) {
@@ -737,7 +742,7 @@ public final class ShadowPool {
         /** E of a law by the names as they stand; Long.MIN_VALUE with an ERROR or without such a law. */
         long work(int law) {
             int height = 0;
-            for (int k = from[law]; k < to[law]; k++) {
+            for (int k = from[law]; k < to[law] && height < KNOTS_MOST; k++) {
                 int knot = kind[k];
                 if (knot == Scanner.NUMBER) {
                     stack[height++] = value[k];
@@ -832,7 +837,7 @@ public final class ShadowPool {
         /** The words of the language, in the order of the numbers THING to WHICH, a blank behind each. */
         private static final String LANGUAGE = "thing lamp meet rule fog seed law thief shy queue stack fit late near price or and not size comes far own kind day which ";
 
-        private final byte[] bytes;
+        final byte[] bytes = new byte[TAPE_MOST];
         private final int[] language = new int[WORDS];
         private int length;
         private int at;
@@ -841,8 +846,7 @@ public final class ShadowPool {
         int letters;
         int value;
 
-        Scanner(byte[] bytes) {
-            this.bytes = bytes;
+        Scanner() {
             int word = 0;
             int shift = 25;
             for (int i = 0; i < LANGUAGE.length() && word < WORDS; i++) {
@@ -858,7 +862,7 @@ public final class ShadowPool {
         }
 
         void start(int n) {
-            length = Math.min(n, bytes.length);
+            length = Math.min(n, TAPE_MOST);
             at = 0;
             advance();
         }
@@ -894,7 +898,7 @@ public final class ShadowPool {
 
         private void readWord() {
             letters = 0;
-            while (isLetter(at)) {
+            while (at < length && isLetter(at)) {
                 int shift = 5 * (LETTERS_MOST - 1 - (at - place));
                 if (shift >= 0) {
                     letters |= bytes[at] - 'a' + 1 << shift;
@@ -912,7 +916,7 @@ public final class ShadowPool {
         private void readNumber() {
             kind = NUMBER;
             value = 0;
-            while (isDigit(at)) {
+            while (at < length && isDigit(at)) {
                 value = Math.min(NUMBER_MOST, value * 10 + bytes[at] - '0');
                 at++;
             }
@@ -973,7 +977,7 @@ public final class ShadowPool {
         /** How tight comparisons bind. */
         private static final int COMPARISON = 4;
 
-        private final Scanner scan;
+        final Scanner scan = new Scanner();
         final Told draft = new Told();
         private final int[] waiting = new int[Laws.KNOTS_MOST + OPEN_MOST];
         private int waits;
@@ -987,10 +991,6 @@ public final class ShadowPool {
         private int taken;
         int faultKind;
         int faultPlace;
-
-        Reader(byte[] bytes) {
-            this.scan = new Scanner(bytes);
-        }
 
         /** How many LINES there are ahead of the end or of the first FAULT. */
         int read(int n) {
@@ -1480,12 +1480,7 @@ public final class ShadowPool {
         }
 
         int findMeeting(int one, int other) {
-            for (int i = 0; i < meetings; i++) {
-                if (first[i] == one && second[i] == other || first[i] == other && second[i] == one) {
-                    return i;
-                }
-            }
-            return NONE;
+            return findPair(first, second, meetings, one, other);
         }
 
         void addMeeting(int at, int one, int other) {
@@ -1532,15 +1527,10 @@ public final class ShadowPool {
         private static final int WHICH = 6;
         private static final int PRICE_MOST = 999;
 
-        private final Told told;
-        private final Ways ways;
+        final Told told = new Told();
+        final Ways ways = new Ways();
         private final long[] late = new long[MOST];
         private final long[] near = new long[MOST * MOST];
-
-        Day(Told told, Ways ways) {
-            this.told = told;
-            this.ways = ways;
-        }
 
         /** A DAY as it goes. */
         void pass(Scene scene) {
@@ -1720,9 +1710,9 @@ public final class ShadowPool {
         private static final int ORDERS_MOST = 120;
         private static final int CHOICES = 5;
 
-        private final Told told;
-        private final Ways ways;
-        private final Day day;
+        final Day day = new Day();
+        private final Told told = day.told;
+        private final Ways ways = day.ways;
         private final Scene start = new Scene();
         private final Scene trial = new Scene();
         private final int[] order = new int[MOST];
@@ -1733,12 +1723,6 @@ public final class ShadowPool {
         private final int[] gains = new int[CHOICES * CHOICES];
         private final int[] otherGains = new int[CHOICES * CHOICES];
         private final int[] restList = new int[CHOICES * CHOICES];
-
-        Finder(Told told, Ways ways, Day day) {
-            this.told = told;
-            this.ways = ways;
-            this.day = day;
-        }
 
         /** What is the same by every ORDER: dusk, and E of near. */
         private void prepare(Scene now) {
@@ -1898,7 +1882,7 @@ public final class ShadowPool {
             states[0] = stateOf(scene);
             cameFrom[0] = NONE;
             size = 1;
-            for (int k = 0; k < size; k++) {
+            for (int k = 0; k < size && k < STATES_MOST; k++) {
                 if (states[k] == goal) {
                     return traceBack(k);
                 }
@@ -1951,7 +1935,7 @@ public final class ShadowPool {
 
         private int traceBack(int end) {
             int length = 0;
-            for (int k = end; k > 0; k = cameFrom[k]) {
+            for (int k = end; k > 0 && length < STATES_MOST; k = cameFrom[k]) {
                 length++;
             }
             int left = length;
