@@ -135,7 +135,23 @@ public final class PromiseTest {
         due("all have their own", 3, x.own());
         due("day", 0, x.count(5));
         due("known by all", 0, x.count(8));
+        dueCut("thing abcdefg", 12, 1, 12);
+        dueCut("seed 999999", 6, 1, 6);
+        dueCut("law late 1<=2", 11, 1, 11);
+        dueCut("law late 1<>2", 11, 1, 11);
+        dueCut("law late 1>=2", 11, 1, 11);
         due("told without blanks", 1, Texts.load(x, "thing a0 9;".replace("9", "9 0 0")));
+    }
+
+    /** What stands on the tape behind the first n bytes is not of the text. */
+    private static void dueCut(String text, int n, int kind, int place) {
+        ShadowPool x = new ShadowPool();
+        for (int[] five : Texts.fives(text.getBytes(java.nio.charset.StandardCharsets.ISO_8859_1))) {
+            x.feed(five[0], five[1], five[2], five[3], five[4]);
+        }
+        due("text(" + n + ") of " + text, -1, x.text(n));
+        due("fault(0) of " + n + " of " + text, kind, x.fault(0));
+        due("fault(1) of " + n + " of " + text, place, x.fault(1));
     }
 
     private static void faults() {
@@ -160,6 +176,21 @@ public final class PromiseTest {
         dueFault("thing a 1 1 512 1;", 2, 12);
         dueFault("thing a 1 1 1 10 @;", 2, 14);
         dueFault("lamp 1 30;", 2, 7);
+        dueFault("lamp 30 1;", 2, 5);
+        dueFault("lamp 30 @;", 2, 5);
+        dueFault("lamp 1;", 1, 6);
+        String five = "";
+        for (char name = 'a'; name <= 'e'; name++) {
+            five += "thing " + name + " 1 1 1 1;";
+        }
+        dueFault(five + "thing a @", 2, five.length());
+        String all = "";
+        for (char one = 'a'; one <= 'e'; one++) {
+            for (char other = 'a'; other < one; other++) {
+                all += "meet " + one + " " + other + ";";
+            }
+        }
+        dueFault(five + all + "meet a a;", 2, five.length() + all.length());
         dueFault("rule 9999999;", 1, 5);
         dueFault("rule late;", 1, 5);
         dueFault("fog 101;", 2, 4);
@@ -207,6 +238,8 @@ public final class PromiseTest {
         dueFault("law late ((((((((((1", 2, 17);
         dueFault("law late 1 (((((((((1", 1, 11);
         dueFault("law late " + "1+".repeat(32) + "1;", 2, 73);
+        dueFault("law late " + "1+".repeat(32) + "1 @", 2, 73);
+        dueFault("law late not " + "1+".repeat(32) + " 1;", 2, 76);
         dueFault("law late " + "1+".repeat(32) + ");", 1, 73);
         dueFault("law late " + "1+".repeat(20) + "1;law near " + "1+".repeat(11) + "1+1;", 2, 83);
         ShadowPool x = pool("law late ((((((((1))))))))+(((((((((1)))))))));".replace("(((((((((", "((((((((").replace(")))))))))", "))))))))"));
@@ -594,6 +627,13 @@ public final class PromiseTest {
         due("hangs(2)", 2, x.hangs(2));
         x.hang(1, 14);
         due("none is more", -2, x.hangs(0));
+        ShadowPool y = pool("thing a 29 1 1 1;lamp 0 0;");
+        due("hangs(1), the last place", 29, y.hangs(1));
+        // lamp 0 gives a ahead of b only where it hangs now
+        ShadowPool z = pool("thing a 10 1 1 0;thing b 12 1 1 1;thing c 20 1 1 2;lamp 10 2;lamp 0 0;");
+        due("hangs(0), the second one", 1, z.hangs(0));
+        due("hangs(1) of it", 20, z.hangs(1));
+        due("hangs(2) of it", 3, z.hangs(2));
         due("no such what all the same", -1, x.hangs(3));
     }
 
@@ -770,6 +810,17 @@ public final class PromiseTest {
         due("always, below", 1, w.whole(0, 4, 1));
     }
 
+    /** How many of the first ten numbers from a seed on are no fog of 50. */
+    private static int chanceOfOneDay(int seed) {
+        long number = seed;
+        int times = 0;
+        for (int i = 0; i < 10; i++) {
+            number = (number * 1103515245L + 12345L) % (1L << 31);
+            times += number / 65536 % 100 >= 50 ? 1 : 0;
+        }
+        return times;
+    }
+
     private static void chance() {
         ShadowPool x = pool("thing a 0 3 1 2;lamp 0 0;fog 50;seed 7;");
         long number = 12345;
@@ -786,6 +837,8 @@ public final class PromiseTest {
         due("chance(12345, 3, 0)", 10, x.chance(12345, 3, 0));
         due("chance(12345, 3, 2)", 0, x.chance(12345, 3, 2));
         due("chance(2147483647, 20, 5)", 0, x.chance(2147483647, 20, 5));
+        due("chance(0, 1, 1)", chanceOfOneDay(0), x.chance(0, 1, 1));
+        due("chance(2147483647, 1, 1)", chanceOfOneDay(2147483647), x.chance(2147483647, 1, 1));
         due("chance(-1, 3, 0)", -1, x.chance(-1, 3, 0));
         due("chance(0, 0, 0)", -1, x.chance(0, 0, 0));
         due("chance(0, 21, 0)", -1, x.chance(0, 21, 0));
@@ -857,9 +910,42 @@ public final class PromiseTest {
         }
         due("20 at most", -1, x.undo());
         due("the first two stay", 2, x.lamp(0, 0));
+        undoOfMany();
         x.hang(0, 30);
         x.trade(0, 0);
         due("what was refused is none", 0, x.count(9));
+    }
+
+    private static void undoOfMany() {
+        ShadowPool x = pool("thing a 0 1 1 1;thing b 1 1 1 0;thing c 9 1 1 5;thing d 9 1 1 5;lamp 0 1;lamp 9 0;meet a d;meet b c;meet d c;");
+        x.hang(0, 28);
+        x.meet(0, 1, true);
+        for (int i = 0; i < 5; i++) {
+            x.hang(1, 20 + i);
+            x.turn(0, 1);
+            x.trade(i % 3, 3);
+            x.meet(1, 2, i % 2 == 1);
+        }
+        for (int i = 19; i >= 0; i--) {
+            due("undo() of many", i, x.undo());
+        }
+        due("the two oldest stay: the lamp", 28, x.lamp(0, 0));
+        due("the two oldest stay: the meeting", true, x.meets(0, 1));
+        due("lamp(1, 0)", 9, x.lamp(1, 0));
+        due("lamp(0, 2)", 0, x.lamp(0, 2));
+        due("own()", 4, x.own());
+        due("count(2)", 4, x.count(2));
+        due("what parted meets again", true, x.meets(1, 2) && x.meets(0, 3) && x.meets(2, 3));
+        ShadowPool y = pool("thing a 0 1 1 1;thing b 1 1 1 0;thing c 9 1 1 5;meet a b;meet c b;meet a c;");
+        y.meet(0, 1, false);
+        y.undo();
+        // a has c's, b a's, c b's: by (a b) first, then (b c)
+        y.trade(0, 2);
+        y.trade(1, 2);
+        due("swaps() in the old order", 2, y.swaps());
+        due("swap(0) in the old order", 1, y.swap(0));
+        due("swap(1) in the old order", 12, y.swap(1));
+        due("all three meet", true, y.meets(0, 1) && y.meets(0, 2) && y.meets(1, 2));
     }
 
     private static void images() {
