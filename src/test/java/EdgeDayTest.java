@@ -21,6 +21,7 @@ public final class EdgeDayTest {
         noonInOrder();
         namesOfLate();
         namesOfNear();
+        namesOneBehindAnother();
         valuesUpToTheMost();
         divisions();
         truths();
@@ -329,6 +330,19 @@ public final class EdgeDayTest {
                 }
             }
         }
+    }
+
+    /** What near asked of far and which doesn't stay for late and price. */
+    private static void namesOneBehindAnother() {
+        ShadowPool x = Edges.pool("thing a 20 9 1 3;lamp 1 1;lamp 2 2;law near far*10+which;law late far*10+which;law price far*10+which;");
+        for (int i = 0; i < 2; i++) {
+            Edges.due(181L, x, "law", 2, 0, 1);
+            Edges.due(0L, x, "law", i, 0, 1);
+            Edges.due(0L, x, "law", 1 - i, 0, 1);
+        }
+        x.days(1);
+        Edges.due(0L, x, "law", 0, 0, 0);
+        Edges.due(0, x, "price", 0);
     }
 
     private static void namesOfNear() {

@@ -21,11 +21,13 @@ public final class EdgeTextTest {
         howManyLines();
         ownWords();
         wordsOfTheLanguage();
+        wordsInTheirPlaces();
         bytesThatAreNoToken();
         blanks();
         moreMustCome();
         whatCantStand();
         grammarOfExpressions();
+        expressionsBeginAnew();
         comparisonsInTwoSigns();
         openBrackets();
         knots();
@@ -207,7 +209,8 @@ public final class EdgeTextTest {
 
     /** "DAY 0, all have their own, nothing at the WALL, nothing SEEN, all KNOWN, no IMAGE, nothing to undo then" */
     private static void textBeginsAnew() {
-        String[] texts = {AB + "lamp 1 1;lamp 9 2;meet a b;rule fit;fog 50;seed 7;law late 1;", "", AB, "lamp 3 3;"};
+        String[] texts = {AB + "lamp 1 1;lamp 9 2;meet a b;rule fit;fog 50;seed 7;law late 1;", "", AB, "lamp 3 3;", AB + "lamp 1 0;", AB + "lamp 1 0;fog 50;",
+            AB + "law near 7;", AB + "law price 5;"};
         for (String text : texts) {
             ShadowPool x = used();
             ShadowPool fresh = new ShadowPool();
@@ -225,6 +228,18 @@ public final class EdgeTextTest {
             fresh.days(20);
             Edges.is("the numbers begin with the seed of " + text, Edges.seenOf(fresh), Edges.seenOf(x));
         }
+        // nothing of an older TEXT's rule, fog, seed and laws
+        ShadowPool older = Edges.pool(AB + "lamp 1 0;rule stack;fog 100;seed 99999;law late 1;law near 2;law price 3;");
+        Texts.load(older, AB + "lamp 1 0;");
+        Edges.due(0, older, "count", 3);
+        Edges.due(0, older, "count", 4);
+        for (int what = 0; what < 3; what++) {
+            Edges.due(Long.MIN_VALUE, older, "law", what, 0, 0);
+        }
+        Edges.due(1, older, "price", 0);
+        Edges.due(1, older, "whole", 0, 1, 1);
+        older.days(1);
+        Edges.due(2, older, "own");
         ShadowPool x = used();
         Texts.load(x, AB);
         x.see(1, 0, 0);
@@ -450,6 +465,44 @@ public final class EdgeTextTest {
         }
     }
 
+    private static boolean isIn(String word, String... words) {
+        return java.util.Arrays.asList(words).contains(word);
+    }
+
+    /** Each word of the language stands where the grammar has it, and nowhere else. */
+    private static void wordsInTheirPlaces() {
+        for (String word : LANGUAGE) {
+            boolean operand = isIn(word, "not", "size", "comes", "far", "own", "kind", "day", "which");
+            dueWord(isIn(word, "thing", "lamp", "meet", "rule", "fog", "seed", "law"), "", word);
+            dueWord(isIn(word, "thief", "shy"), "thing a 1 1 1 1 ", word);
+            dueWord(false, "thing a 1 1 1 1 shy ", word);
+            dueWord(false, "thing a 1 1 1 ", word);
+            dueWord(false, "lamp ", word);
+            dueWord(false, "lamp 1 1 ", word);
+            dueWord(isIn(word, "queue", "stack", "fit"), "rule ", word);
+            dueWord(false, "rule fit ", word);
+            dueWord(false, "fog ", word);
+            dueWord(false, "seed ", word);
+            dueWord(isIn(word, "late", "near", "price"), "law ", word);
+            dueWord(operand, "law late ", word);
+            dueWord(operand, "law late (", word);
+            dueWord(operand, "law late not ", word);
+            dueWord(operand, "law late 1 and ", word);
+            dueWord(operand, "law late 1 or ", word);
+            dueWord(operand && !word.equals("not"), "law late 1 + ", word);
+            dueWord(operand && !word.equals("not"), "law late 1 < ", word);
+            dueWord(isIn(word, "and", "or"), "law late 1 ", word);
+            dueWord(isIn(word, "and", "or"), "law late size ", word);
+            dueWord(isIn(word, "and", "or"), "law late (1) ", word);
+        }
+    }
+
+    /** A word that may stand is followed by a FAULT behind it, as the text ends there; one that may not is the FAULT. */
+    private static void dueWord(boolean stands, String ahead, String word) {
+        Edges.dueFault(1, stands ? ahead.length() + word.length() : ahead.length(), ahead + word);
+        Edges.dueFault(1, stands ? ahead.length() + word.length() + 1 : ahead.length(), ahead + word + " @");
+    }
+
     /** "1 a TOKEN that is none": each byte that begins none, where a LINE, a word, a number, a sign or an E is due. */
     private static void bytesThatAreNoToken() {
         String[] aheads = {"", "lamp 1 1;", "thing ", "thing a ", "thing a 1 1 1 1", "thing a 1 1 1 1 shy", "lamp 1 ", "meet ", "rule ", "fog ", "seed ", "law ", "law late ", "law late 1", "law late (1"};
@@ -591,6 +644,12 @@ public final class EdgeTextTest {
         stands("1 or not 2");
         stands("not (1) and (not 2)");
         stands("not 1<2");
+        // inside '(' an E begins anew
+        for (String sign : new String[] {"<", "<=", "=", "<>", ">=", ">", "+", "-", "*", "/"}) {
+            stands("1" + sign + "(not 2)");
+            stands("1" + sign + "(2<3)");
+            stands("1" + sign + "((not 2 and 3))");
+        }
         stands("1<2 and 3<4 or 5<6");
         stands("(1<2)<3");
         stands("1<(2<3)");
@@ -626,6 +685,19 @@ public final class EdgeTextTest {
         falls(2, "1++2");
         falls(2, "1*-2");
         falls(0, "-2");
+    }
+
+    /** A FAULT within an E leaves nothing behind for the next TEXT. */
+    private static void expressionsBeginAnew() {
+        for (String spoilt : new String[] {"law late 1+2*(3-(4@", "law late not not 1 and (", "law late ((((((((1", "law late " + "1+".repeat(40), "law late 1<2<3;"}) {
+            ShadowPool x = new ShadowPool();
+            Edges.is("text of " + spoilt, -1, Texts.load(x, spoilt));
+            Edges.is("a good one behind " + spoilt, 3, Texts.load(x, "thing a 1 1 1 1;law late 5;law price ((((((((6))))))));"));
+            Edges.due(5L, x, "law", 0, 0, 0);
+            Edges.due(6L, x, "law", 1, 0, 0);
+            Edges.due(2, x, "count", 4);
+            Edges.is("64 KNOTS behind " + spoilt, 1, Texts.load(x, "law near not " + "1+".repeat(31) + "1;"));
+        }
     }
 
     /** "A = (or > behind <) right behind < or > belongs to it." */
