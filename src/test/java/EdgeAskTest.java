@@ -7,6 +7,7 @@ public final class EdgeAskTest {
         bestOfEachOrder();
         bestOfFewLamps();
         givesEachTurn();
+        givesByTheLastOrder();
         searchesGoAsDaysGo();
         givesByNone();
         hangsAtEachPlace();
@@ -104,6 +105,19 @@ public final class EdgeAskTest {
                 }
             }
         }
+    }
+
+    /** The last of all 120 ORDERS may be the only one. */
+    private static void givesByTheLastOrder() {
+        ShadowPool x = Edges.pool("thing a 4 1 1 2;thing b 0 1 1 0;thing c 3 1 1 2;thing d 1 1 1 0;thing e 5 1 1 0;"
+                + "lamp 5 2;lamp 3 2;lamp 1 1;lamp 5 0;lamp 0 0;meet b a;meet d a;rule stack;");
+        for (int what = 0; what < 5; what++) {
+            Edges.due(4 - what, x, "gives", 0, 2, what);
+        }
+        x.turn(0, 4);
+        x.turn(1, 3);
+        x.days(1);
+        Edges.due(2, x, "thing", 0, 1);
     }
 
     /** ORDERS and places are tried with all that a DAY does: near, the rule, THIEVES, MEETINGS */
@@ -288,6 +302,11 @@ public final class EdgeAskTest {
         Edges.due(-2, x, "swaps");
         x.trade(1, 3);
         Edges.due(1, x, "swaps");
+        ShadowPool two = Edges.pool(line(2));
+        two.trade(0, 1);
+        Edges.due(1, two, "swaps");
+        two.meet(0, 1, false);
+        Edges.due(-2, two, "swaps");
         // one swap of two who meet is fewer, though it is the last MEETING; the lesser number first
         ShadowPool y = Edges.pool(line(5) + "meet e a;");
         y.trade(0, 4);

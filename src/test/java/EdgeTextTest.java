@@ -213,8 +213,8 @@ public final class EdgeTextTest {
             AB + "law near 7;", AB + "law price 5;"};
         for (String text : texts) {
             ShadowPool x = used();
-            ShadowPool fresh = new ShadowPool();
-            Edges.is("LINES of " + text, Texts.load(fresh, text), Texts.load(x, text));
+            ShadowPool anew = new ShadowPool();
+            Edges.is("LINES of " + text, Texts.load(anew, text), Texts.load(x, text));
             Edges.due(0, x, "count", 5);
             Edges.due(x.count(0), x, "own");
             Edges.due(0, x, "count", 6);
@@ -223,10 +223,10 @@ public final class EdgeTextTest {
             Edges.due(0, x, "count", 9);
             Edges.due(-1, x, "undo");
             Edges.due(-1, x, "back");
-            Edges.is("all is as on a new object behind " + text, Edges.seenOf(fresh), Edges.seenOf(x));
+            Edges.is("all is as on a new object behind " + text, Edges.seenOf(anew), Edges.seenOf(x));
             x.days(20);
-            fresh.days(20);
-            Edges.is("the numbers begin with the seed of " + text, Edges.seenOf(fresh), Edges.seenOf(x));
+            anew.days(20);
+            Edges.is("the numbers begin with the seed of " + text, Edges.seenOf(anew), Edges.seenOf(x));
         }
         // nothing of an older TEXT's rule, fog, seed and laws
         ShadowPool older = Edges.pool(AB + "lamp 1 0;rule stack;fog 100;seed 99999;law late 1;law near 2;law price 3;");
@@ -240,6 +240,16 @@ public final class EdgeTextTest {
         Edges.due(1, older, "whole", 0, 1, 1);
         older.days(1);
         Edges.due(2, older, "own");
+        ShadowPool unseeded = Edges.pool("seed 99999;");
+        ShadowPool fresh = new ShadowPool();
+        for (ShadowPool each : new ShadowPool[] {unseeded, fresh}) {
+            Texts.load(each, AB + "lamp 1 0;fog 50;");
+        }
+        for (int i = 0; i < 30; i++) {
+            unseeded.days(1);
+            fresh.days(1);
+            Edges.is("no seed of an older TEXT, day " + i, fresh.own(), unseeded.own());
+        }
         ShadowPool x = used();
         Texts.load(x, AB);
         x.see(1, 0, 0);
