@@ -1,6 +1,6 @@
 import java.util.function.Consumer;
 
-/** After a refused call, and after any question, all is as it was: on a new object, on one in the midst of things, and on a full one. */
+/** After a refused call, and after any question, all is as it was: on a new object, on one in the midst of things, on a full one, and on one with nothing to undo and no IMAGE. */
 public final class EdgeRefusedTest {
     private static final String MIDST = "thing a 0 5 256 1;thing b 4 3 16 0 shy;thing cat 9 8 7 2 thief;thing d 12 4 11 3;lamp 1 9;lamp 10 4;lamp 20 9;"
             + "meet a b;meet d b;fog 40;seed 77;law late comes+size*own;law price size*10+day;";
@@ -70,11 +70,23 @@ public final class EdgeRefusedTest {
         x.feed(0x6c616d70, 0x20312031, 0x3b6c616d, 0x70203120, 0x353b2020);
     }
 
+    /** Nobody has anything, as there was fog: all stands at the WALL, nothing can be undone, there is no IMAGE. */
+    private static void makeBare(ShadowPool x) {
+        Texts.load(x, "thing a 0 5 256 1;thing b 4 3 16 0 shy;lamp 1 9;lamp 10 4;meet a b;fog 100;law near far;");
+        x.hang(0, 2);
+        x.turn(0, 1);
+        x.days(3);
+        x.see(1, 0, 16);
+    }
+
     public static void main(String[] args) {
         new EdgeRefusedTest(x -> { }, 0, 0, 0, 0).runAll();
         new EdgeRefusedTest(EdgeRefusedTest::makeMidst, 4, 3, 3, 40).runAll();
         new EdgeRefusedTest(EdgeRefusedTest::makeFull, 5, 5, 24, 700).runAll();
+        new EdgeRefusedTest(EdgeRefusedTest::makeBare, 2, 2, 1, 0).runAll();
         fullOnly();
+        bareOnly();
+        textsWithFaults();
         Edges.end();
     }
 
@@ -277,6 +289,36 @@ public final class EdgeRefusedTest {
         stays(null, "meets", 0, 1);
         stays(null, "named", 1 << 25);
         stays(null, "swap", 0);
+    }
+
+    /** "NONE: none", "NONE: there is none", "both have none", "it does", "it is so" on an object that is in use */
+    private static void bareOnly() {
+        EdgeRefusedTest bare = new EdgeRefusedTest(EdgeRefusedTest::makeBare, 2, 2, 1, 0);
+        bare.stays(-1, "undo");
+        bare.stays(-1, "back");
+        bare.stays(false, "trade", 0, 1);
+        bare.stays(false, "trade", 1, 0);
+        bare.stays(false, "hang", 0, 2);
+        bare.stays(false, "hang", 1, 10);
+        bare.stays(false, "meet", 0, 1, true);
+        bare.stays(false, "meet", 1, 0, true);
+        bare.stays(-2, "wall", 2);
+        bare.stays(0, "swaps");
+        bare.stays(-2, "swap", 0);
+        bare.stays(-2, "gives", 1, 0, 0);
+        bare.stays(Long.MIN_VALUE, "law", 0, 0, 0);
+        bare.stays(Long.MIN_VALUE, "law", 1, 0, 0);
+    }
+
+    /** "NONE with a FAULT, all stays", but the TAPE, which is empty then, and the FAULT */
+    private static void textsWithFaults() {
+        // the TAPE of each ends with "lamp 1 1;lamp 1 5;  ", which is cut within a LINE here
+        for (int n = 1; n < 18; n++) {
+            if (n != 9) {
+                Edges.changesAtMostTheTape(EdgeRefusedTest::makeMidst, -1, "text", 20 + n);
+                Edges.changesAtMostTheTape(EdgeRefusedTest::makeFull, -1, "text", 680 + n);
+            }
+        }
     }
 
     private static void fullOnly() {

@@ -173,19 +173,29 @@ final class Edges {
 
     /** Two objects made alike, one of them with a call more that must answer so (null: whatever) and change nothing, however it is looked at. */
     static void changesNothing(Consumer<ShadowPool> made, int taped, Object due, String name, Object... args) {
-        List<Function<ShadowPool, String>> views = List.of(Edges::seenOf, Edges::memoryOf, Edges::undoneOf, Edges::daysOf, Edges::imageOf,
-                x -> x.fault(0) + " " + x.fault(1), x -> tapeOf(x, taped));
-        String label = name + Arrays.toString(args);
+        changesAtMostTheTape(made, due, name, args);
+        looksTheSame(x -> x.fault(0) + " " + x.fault(1), made, due, name, args);
+        looksTheSame(x -> tapeOf(x, taped), made, due, name, args);
+    }
+
+    /** The same of a call that may change the TAPE and the FAULT, but nothing else. */
+    static void changesAtMostTheTape(Consumer<ShadowPool> made, Object due, String name, Object... args) {
+        List<Function<ShadowPool, String>> views = List.of(Edges::seenOf, Edges::memoryOf, Edges::undoneOf, Edges::daysOf, Edges::imageOf);
         for (Function<ShadowPool, String> view : views) {
-            ShadowPool plain = new ShadowPool();
-            ShadowPool called = new ShadowPool();
-            made.accept(plain);
-            made.accept(called);
-            String got = call(called, name, args);
-            if (due != null) {
-                is(label, due, got);
-            }
-            is("what is seen behind " + label, view.apply(plain), view.apply(called));
+            looksTheSame(view, made, due, name, args);
         }
+    }
+
+    private static void looksTheSame(Function<ShadowPool, String> view, Consumer<ShadowPool> made, Object due, String name, Object... args) {
+        String label = name + Arrays.toString(args);
+        ShadowPool plain = new ShadowPool();
+        ShadowPool called = new ShadowPool();
+        made.accept(plain);
+        made.accept(called);
+        String got = call(called, name, args);
+        if (due != null) {
+            is(label, due, got);
+        }
+        is("what is seen behind " + label, view.apply(plain), view.apply(called));
     }
 }
